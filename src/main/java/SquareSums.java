@@ -265,9 +265,9 @@ public final class SquareSums {
         private int size = 0;
 
         /**
-         * A point is covered if in no direction it lies further than all the terms. The sides of
-         * what is covered run between powers, and so do the lines that part a point from a side's
-         * ends: directions of numbers up to the highest power are enough.
+         * A point is covered if in no direction it lies further out than all the terms. Only the
+         * directions along and across a line through two powers need to be looked at, and their
+         * numbers are never beyond the highest power.
          */
         void span(int[] numbers) {
             forget();
@@ -348,9 +348,10 @@ public final class SquareSums {
 
     /** The pairs of members in their order, which of them hang, and which are free. */
     private static final class Pairs {
-        private final int[] first = new int[PAIRS];
         private final int[] second = new int[PAIRS];
+        private final int[] cell = new int[PAIRS];
         private final int[] power = new int[PAIRS];
+        private final int[] share = new int[PAIRS];
         private final int[] hanging = new int[POWERS];
         private final int[] freePairs = new int[PAIRS];
         private final int[] rest = new int[POWERS];
@@ -376,9 +377,11 @@ public final class SquareSums {
         }
 
         private void add(int i, int j, int product) {
-            first[size] = i;
             second[size] = j;
+            cell[size] = cellOf(i, j);
             power[size] = product;
+            // A pair of two members stands in the table's sum twice, as i, j and as j, i.
+            share[size] = i == j ? 1 : 2;
             if (hanging[product] == NONE || i == j) {
                 hanging[product] = size;
             }
@@ -398,7 +401,7 @@ public final class SquareSums {
         boolean make(int[] table, int[] numbers) {
             doubleInto(rest, numbers);
             for (int pair = 0; pair < size; pair++) {
-                takeOff(rest, pair, table[cellOf(first[pair], second[pair])]);
+                rest[power[pair]] -= share[pair] * table[cell[pair]];
             }
             for (int p = 0; p < POWERS; p++) {
                 if (rest[p] != 0) {
@@ -422,15 +425,6 @@ public final class SquareSums {
             for (int p = 0; p < POWERS; p++) {
                 doubled[p] = 2 * numbers[p];
             }
-        }
-
-        /** A pair of two members stands in the table's sum twice, as i, j and as j, i. */
-        void takeOff(int[] doubled, int pair, int number) {
-            doubled[power[pair]] -= isDiagonal(pair) ? number : 2 * number;
-        }
-
-        boolean isDiagonal(int pair) {
-            return first[pair] == second[pair];
         }
     }
 
@@ -488,12 +482,13 @@ public final class SquareSums {
             if (before <= 0) {
                 return;
             }
-            long w = left[cellOf(i, i)];
+            int rowI = i * MEMBERS;
+            long w = left[rowI + i];
             for (int j = i + 1; j < members; j++) {
-                long forJ = left[cellOf(i, j)];
+                int rowJ = j * MEMBERS;
+                long forJ = left[rowI + j];
                 for (int k = j; k < members; k++) {
-                    int cell = cellOf(j, k);
-                    left[cell] = (w * left[cell] - forJ * left[cellOf(i, k)]) / before;
+                    left[rowJ + k] = (w * left[rowJ + k] - forJ * left[rowI + k]) / before;
                 }
             }
         }
@@ -575,19 +570,19 @@ public final class SquareSums {
             Pairs.doubleInto(rest, numbers);
             for (int f = 0; f < pairs.freeSize; f++) {
                 int pair = pairs.freePairs[f];
-                pairs.takeOff(rest, pair, chosen[f]);
-                table[cellOf(pairs.first[pair], pairs.second[pair])] = chosen[f];
+                rest[pairs.power[pair]] -= pairs.share[pair] * chosen[f];
+                table[pairs.cell[pair]] = chosen[f];
             }
             for (int p = 0; p < POWERS; p++) {
                 int pair = pairs.hanging[p];
                 if (pair == NONE) {
                     continue;
                 }
-                int number = pairs.isDiagonal(pair) ? rest[p] : rest[p] / 2;
+                int number = pairs.share[pair] == 1 ? rest[p] : rest[p] / 2;
                 if (!within(number, TABLE_LIMIT)) {
                     return pairs.second[pair];
                 }
-                table[cellOf(pairs.first[pair], pairs.second[pair])] = number;
+                table[pairs.cell[pair]] = number;
             }
             return steps.failingMember(table, members);
         }

@@ -32,10 +32,11 @@ public final class RandomRunsTest {
 
     private void play() {
         while (calls < CALLS - 120) {
-            switch (random.nextInt(4)) {
+            switch (random.nextInt(5)) {
                 case 0 -> makeSumOfSquares();
                 case 1 -> makeSparse();
                 case 2 -> changeOneTerm();
+                case 3 -> makeLarge();
                 default -> tryWrongCalls();
             }
             useThePolynomial();
@@ -104,6 +105,19 @@ public final class RandomRunsTest {
             for (int b = 0; a + b <= 4; b++) {
                 if (sum[a][b] != 0) {
                     term(a, b, Math.max(-15, Math.min(15, sum[a][b])));
+                }
+            }
+        }
+    }
+
+    /** High numbers all over, so that the fractions of the steps become as long as can be. */
+    private void makeLarge() {
+        int others = 1 + random.nextInt(15);
+        for (int a = 0; a <= 4; a++) {
+            for (int b = 0; a + b <= 4; b++) {
+                if (due.count(1) == 2 || b == 0) {
+                    boolean even = a % 2 == 0 && b % 2 == 0;
+                    term(a, b, even ? 15 - random.nextInt(3) : upTo(others));
                 }
             }
         }
@@ -207,25 +221,30 @@ public final class RandomRunsTest {
 
     /** Moves along what a power's pairs can share, so that the table often still makes it. */
     private void changeTable() {
-        switch (random.nextInt(5)) {
+        switch (random.nextInt(6)) {
             case 0 -> put(random.nextInt(7), random.nextInt(7), upTo(31));
-            case 1 -> shiftAnyPair();
+            case 1 -> shiftAnyPair(2);
             case 2 -> {
-                shiftAnyPair();
-                shiftAnyPair();
+                shiftAnyPair(2);
+                shiftAnyPair(2);
             }
-            case 3 -> fillTable();
+            case 3 -> {
+                shiftAnyPair(30);
+                shiftAnyPair(30);
+                shiftAnyPair(30);
+            }
+            case 4 -> fillTable();
             default -> { }
         }
     }
 
-    private void shiftAnyPair() {
+    private void shiftAnyPair(int most) {
         int i = random.nextInt(6);
         int j = random.nextInt(6);
         for (int k = 0; k < 6; k++) {
             for (int m = k; m < 6; m++) {
                 if (sameProduct(i, j, k, m)) {
-                    int d = random.nextInt(2) + 1;
+                    int d = upTo(most);
                     put(i, j, due.at(i, j) + (i == j ? 2 * d : d));
                     put(k, m, due.at(k, m) - (k == m ? 2 * d : d));
                     return;
