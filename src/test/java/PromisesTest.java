@@ -326,6 +326,12 @@ public final class PromisesTest {
         expect.same("9: find", 0, halves.find(1));
         fraction("9: 1", 1, 1, halves.weight(0, 0), halves.weight(0, 1));
         fraction("9: 3/4, a 0 left out between", 3, 4, halves.weight(1, 0), halves.weight(1, 1));
+        SquareSums three = polynomial(1, 4, 0, 1, 3, 0, 1, 2, 0, 1, 1, 0, 1, 0, 0, 1);
+        expect.same("9: find three", 0, three.find(0));
+        fraction("9: first of three", 1, 1, three.weight(0, 0), three.weight(0, 1));
+        fraction("9: second of three", 3, 4, three.weight(1, 0), three.weight(1, 1));
+        fraction("9: third of three", 2, 3, three.weight(2, 0), three.weight(2, 1));
+        fraction("10: row of the second of three", 2, 3, three.row(1, 2, 0), three.row(1, 2, 1));
         SquareSums odd = polynomial(2, 4, 0, 1, 2, 2, 1, 0, 4, 1);
         odd.put(0, 0, 2);
         odd.put(2, 2, 2);
