@@ -358,6 +358,10 @@ public final class SquareSums {
         private int size = 0;
         private int freeSize = 0;
 
+        Pairs() {
+            Arrays.fill(hanging, NONE);
+        }
+
         void arrange(Hull hull) {
             Arrays.fill(hanging, NONE);
             size = 0;
