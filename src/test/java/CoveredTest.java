@@ -42,9 +42,13 @@ public final class CoveredTest {
     }
 
     private void compare(String what) {
+        expect.about(Sentence.BASIS_SIZE);
         expect.same(what + " basis", due.basis(), tested.basis());
+        expect.about(Sentence.CORNERS);
         expect.same(what + " corners", due.count(2), tested.count(2));
+        expect.about(Sentence.HANGS);
         expect.same(what + " free", due.free(), tested.free());
+        expect.about(Sentence.BASIS);
         for (int k = 0; k < 6; k++) {
             int of = k;
             expect.text(what + " a of " + of,
